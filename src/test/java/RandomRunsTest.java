@@ -1,0 +1,239 @@
+/** Long runs of calls, always the same ones, against the slow model; every promise is looked at after each change. */
+public final class RandomRunsTest {
+    private static final int RUNS = 40;
+    private static final int CALLS = 512;
+
+    private final Due due;
+    private final PierRings x = new PierRings();
+    private final Model m = new Model();
+    private final int run;
+    private long seed;
+
+    private RandomRunsTest(Due due, int run) {
+        this.due = due;
+        this.run = run;
+        this.seed = 7919L * run + 1;
+    }
+
+    public static void main(String[] args) {
+        Due due = new Due("RandomRunsTest");
+        for (int run = 0; run < RUNS && due.wrong() == 0; run++) {
+            RandomRunsTest test = new RandomRunsTest(due, run);
+            for (int call = 0; call < CALLS && due.wrong() == 0; call++) {
+                test.callSomething();
+                if (call % 40 == 0 || call == CALLS - 1) {
+                    test.compareAll();
+                }
+            }
+        }
+        due.end();
+    }
+
+    private int below(int bound) {
+        seed = seed * 6364136223846793005L + 1442695040888963407L;
+        return (int) ((seed >>> 33) % bound);
+    }
+
+    /** Mostly from the first to the last number, sometimes beside them, seldom far away. */
+    private int near(int least, int most) {
+        int kind = below(40);
+        if (kind == 0) {
+            return least - 1;
+        }
+        if (kind == 1) {
+            return most + 1;
+        }
+        if (kind == 2) {
+            return below(2) == 0 ? Integer.MIN_VALUE : Integer.MAX_VALUE;
+        }
+        return least + below(most - least + 1);
+    }
+
+    private int somePier() {
+        return near(0, Math.max(0, m.account(0) - 1));
+    }
+
+    private int someBarge() {
+        return near(0, Math.max(0, m.account(3) - 1));
+    }
+
+    private int someTons() {
+        return below(3) == 0 ? near(60, 99) : near(1, 99);
+    }
+
+    private int someName() {
+        return below(5) == 0 ? near(0, 30) : near(0, 9999);
+    }
+
+    private void same(String call, long got, long want) {
+        due.is("run " + run + ", " + call, got, want);
+    }
+
+    private void callSomething() {
+        int kind = below(34);
+        if (kind < 12) {
+            change(kind);
+        } else if (kind < 20) {
+            text();
+        } else {
+            ask(kind);
+        }
+    }
+
+    private void change(int kind) {
+        int a = somePier();
+        int b = near(1, 5);
+        int tons = someTons();
+        int name = someName();
+        int barge = someBarge();
+        switch (kind) {
+            case 0, 1: same("pier(" + b + ")", x.pier(b), m.pier(b)); break;
+            case 2: same("close(" + a + ")", x.close(a), m.close(a)); break;
+            case 3: same("open(" + a + ")", x.open(a), m.open(a)); break;
+            case 4: same("weigh(" + a + ", " + b + ")", x.weigh(a, b), m.weigh(a, b)); break;
+            case 5: changeRoomOrTime(); break;
+            case 6, 7, 8, 9: same("barge(" + name + ", " + tons + ")", x.barge(name, tons), m.barge(name, tons)); break;
+            case 10: same("load(" + barge + ", " + tons + ")", x.load(barge, tons), m.load(barge, tons)); break;
+            default:
+                if (below(run % 3 + 1) == 0) {
+                    same("leave(" + barge + ")", x.leave(barge), m.leave(barge));
+                }
+        }
+    }
+
+    private void changeRoomOrTime() {
+        switch (below(7)) {
+            case 0, 1, 2:
+                int tons = below(2) == 0 ? near(10, 200) : near(10, 30);
+                same("berth(" + tons + ")", x.berth(tons), m.berth(tons));
+                break;
+            case 3:
+                same("save()", x.save(), m.save());
+                break;
+            case 4:
+                same("restore()", x.restore(), m.restore());
+                break;
+            default:
+                for (int times = below(11); times > 0; times--) {
+                    same("undo()", x.undo(), m.undo());
+                }
+        }
+    }
+
+    private String someOrder() {
+        switch (below(10)) {
+            case 0: return "pier " + below(7);
+            case 1: return "close " + below(9);
+            case 2: return "open " + below(9);
+            case 3: return "weigh " + below(9) + " " + below(7);
+            case 4, 5: return "barge " + below(10000) + " " + below(100);
+            case 6: return "gone " + below(26);
+            case 7: return "load " + below(26) + " " + below(100);
+            case 8: return "berth " + below(230);
+            default: return "berth 0" + (10 + below(80));
+        }
+    }
+
+    private void text() {
+        StringBuilder text = new StringBuilder(someOrder());
+        for (int more = below(4); more > 0; more--) {
+            text.append(';').append(someOrder());
+        }
+        int damage = below(6);
+        int at = below(text.length());
+        if (damage == 0) {
+            text.setLength(at);
+        } else if (damage == 1) {
+            text.setCharAt(at, "pgowbclerth; 0123456789~"
+                    .charAt(below(24)));
+        } else if (damage == 2) {
+            text.insert(at, "0; b".charAt(below(4)));
+        }
+        for (int i = 0; i < text.length(); i++) {
+            int code = text.charAt(i);
+            same("append(" + code + ")", x.append(code), m.append(code));
+        }
+        if (below(12) == 0) {
+            int code = near(32, 126);
+            same("append(" + code + ")", x.append(code), m.append(code));
+        }
+        if (below(10) != 0) {
+            same("run() of " + text, x.run(), m.run());
+        }
+        compareReasons();
+    }
+
+    private void ask(int kind) {
+        int pier = somePier();
+        int barge = someBarge();
+        int berths = near(1, 5);
+        switch (kind) {
+            case 20: same("wouldMove(" + berths + ")", x.wouldMove(berths), m.wouldMove(berths)); break;
+            case 21: same("wouldClose(" + pier + ")", x.wouldClose(pier), m.wouldClose(pier)); break;
+            case 22: same("tell(" + pier + ")", x.tell(pier), m.tell(pier)); break;
+            case 23: same("tellBarge(" + barge + ")", x.tellBarge(barge), m.tellBarge(barge)); break;
+            case 24: int index = near(0, 60); same("character(" + index + ")", x.character(index), m.character(index)); break;
+            case 25: same("isBalanced()", x.isBalanced(), 1); break;
+            case 26: int place = near(0, 80); int what = near(0, 3); same("ring(" + place + ", " + what + ")", x.ring(place, what), m.ring(place, what)); break;
+            case 27: int point = near(0, 359); same("homeOf(" + point + ")", x.homeOf(point), m.homeOf(point)); break;
+            case 28: int some = near(0, 14); same("account(" + some + ")", x.account(some), m.account(some)); break;
+            case 29: int number = near(0, 9); same("pierOf(" + pier + ", " + number + ")", x.pierOf(pier, number), m.pierOf(pier, number)); break;
+            case 30: int its = near(0, 4); same("bargeOf(" + barge + ", " + its + ")", x.bargeOf(barge, its), m.bargeOf(barge, its)); break;
+            case 31: same("home(" + barge + ")", x.home(barge), m.home(barge)); break;
+            case 32: same("homeAgain(" + barge + ")", x.homeAgain(barge), m.home(barge)); break;
+            default: same("neighbours(" + pier + ")", x.neighbours(pier), m.neighbours(pier));
+        }
+        compareReasons();
+    }
+
+    private void compareReasons() {
+        same("reason(false)", x.reason(false), m.reason(false));
+        same("reason(true)", x.reason(true), m.reason(true));
+    }
+
+    private void compareAll() {
+        for (int what = -1; what <= 15; what++) {
+            same("account(" + what + ")", x.account(what), m.account(what));
+        }
+        for (int pier = -1; pier <= 8; pier++) {
+            for (int what = -1; what <= 10; what++) {
+                same("pierOf(" + pier + ", " + what + ")", x.pierOf(pier, what), m.pierOf(pier, what));
+            }
+            same("neighbours(" + pier + ")", x.neighbours(pier), m.neighbours(pier));
+            same("wouldClose(" + pier + ")", x.wouldClose(pier), m.wouldClose(pier));
+            same("wouldMove(" + pier + ")", x.wouldMove(pier), m.wouldMove(pier));
+            same("hottest(" + pier + ")", x.hottest(pier), m.hottest(pier));
+        }
+        compareBarges();
+        compareRing();
+        same("isBalanced()", x.isBalanced(), 1);
+        due.isReal("meanStretch()", x.meanStretch(), m.meanStretch());
+        due.isReal("takenShare()", x.takenShare(), m.takenShare());
+        compareReasons();
+    }
+
+    private void compareBarges() {
+        for (int barge = -1; barge <= m.account(3); barge++) {
+            for (int what = -1; what <= 5; what++) {
+                same("bargeOf(" + barge + ", " + what + ")", x.bargeOf(barge, what), m.bargeOf(barge, what));
+            }
+            same("home(" + barge + ")", x.home(barge), m.home(barge));
+            same("homeAgain(" + barge + ")", x.homeAgain(barge), m.home(barge));
+        }
+        for (int index = -1; index <= 70; index++) {
+            same("character(" + index + ")", x.character(index), m.character(index));
+        }
+    }
+
+    private void compareRing() {
+        for (int place = -1; place <= m.account(2); place++) {
+            for (int what = -1; what <= 4; what++) {
+                same("ring(" + place + ", " + what + ")", x.ring(place, what), m.ring(place, what));
+            }
+        }
+        for (int point = -1; point <= 360; point++) {
+            same("homeOf(" + point + ")", x.homeOf(point), m.homeOf(point));
+        }
+        same("deep()", x.deep(), m.deep());
+    }
+}
