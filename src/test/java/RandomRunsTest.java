@@ -1,6 +1,6 @@
 /** Long runs of calls, always the same ones, against the slow model; every promise is looked at after each change. */
 public final class RandomRunsTest {
-    private static final int RUNS = 40;
+    private static final int RUNS = 30;
     private static final int CALLS = 512;
 
     private final Due due;
