@@ -756,7 +756,7 @@ public final class PierRings {
             return next == ABSENT ? NOTHING : owner[next];
         }
 
-        /** The node of the lowest point that is not below another one, if there is one. */
+        /** The node of the lowest point that is not below the given one, if there is one. */
         private int firstInTree(int from) {
             int first = ABSENT;
             int node = count == 0 ? ABSENT : TOP;

@@ -13,6 +13,7 @@ public final class AccountsTest {
         meanStretch(due);
         takenShare(due);
         undoEach(due);
+        undoEachKind(due);
         undoNine(due);
         undoLeavesTheRest(due);
         saveAndRestore(due);
@@ -156,6 +157,56 @@ public final class AccountsTest {
         due.is("undo", x.undo(), 0);
         due.is("all is undone", x.account(3), 0);
         due.is("undo", x.undo(), NOTHING);
+    }
+
+    /** All that changes can change, as one text. */
+    private static String picture(PierRings x) {
+        StringBuilder picture = new StringBuilder();
+        for (int what = 0; what <= 12; what++) {
+            picture.append(x.account(what)).append(' ');
+        }
+        for (int pier = 0; x.tell(pier) >= 0 && pier < 9; pier++) {
+            picture.append(Due.line(x)).append(' ').append(x.pierOf(pier, 3)).append(' ');
+        }
+        for (int barge = 0; x.tellBarge(barge) >= 0 && barge < 25; barge++) {
+            picture.append(Due.line(x)).append(' ').append(x.home(barge)).append(x.homeAgain(barge)).append(' ');
+        }
+        return picture.toString();
+    }
+
+    private static int change(PierRings x, int kind) {
+        switch (kind) {
+            case 0: return x.pier(2);
+            case 1: return x.close(0);
+            case 2: return x.open(0);
+            case 3: return x.weigh(1, 4);
+            case 4: return x.berth(25);
+            case 5: return x.barge(1234, 56);
+            case 6: return x.leave(0);
+            case 7: return x.load(1, 17);
+            default: return Due.run(x, "gone 0;barge 4321 65;pier 3");
+        }
+    }
+
+    private static void undoEachKind(Due due) {
+        int[][] rows = {{0, 1, 2, 3, 4, 5, 6, 7}, {8, 7, 6, 5, 4, 3, 1, 2}};
+        for (int[] kinds : rows) {
+            PierRings x = new PierRings();
+            x.pier(3);
+            x.pier(1);
+            x.barge(1, 30);
+            x.barge(2, 40);
+            x.barge(3, 50);
+            String[] before = new String[kinds.length];
+            for (int i = 0; i < kinds.length; i++) {
+                before[i] = picture(x);
+                due.is("change " + kinds[i], change(x, kinds[i]) >= 0 ? 1 : 0, 1);
+            }
+            for (int i = kinds.length - 1; i >= 0; i--) {
+                due.is("undo of " + kinds[i], x.undo(), i);
+                due.isText("as before the change " + kinds[i], picture(x), before[i]);
+            }
+        }
     }
 
     private static void undoNine(Due due) {

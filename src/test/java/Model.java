@@ -92,7 +92,7 @@ final class Model {
             List<Point> way = new ArrayList<>(all.tailMap(barge.point()).values());
             way.addAll(all.headMap(barge.point()).values());
             int passed = 0;
-            while (passed < way.size() && taken[way.get(passed).pier()] + barge.tons() > s.room(way.get(passed).pier())) {
+            while (passed < way.size() && !hasRoom(s, way.get(passed).pier(), taken, barge)) {
                 passed++;
             }
             int pier = passed < way.size() ? way.get(passed).pier() : NOTHING;
@@ -102,6 +102,10 @@ final class Model {
             answer.add(new int[] {pier, passed});
         }
         return answer;
+    }
+
+    private static boolean hasRoom(State s, int pier, int[] taken, Barge barge) {
+        return taken[pier] + barge.tons() <= s.room(pier);
     }
 
     private static Map<Integer, Integer> depths(List<Pier> piers) {

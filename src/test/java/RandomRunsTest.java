@@ -144,8 +144,7 @@ public final class RandomRunsTest {
         if (damage == 0) {
             text.setLength(at);
         } else if (damage == 1) {
-            text.setCharAt(at, "pgowbclerth; 0123456789~"
-                    .charAt(below(24)));
+            text.setCharAt(at, "pgowbclerth; 0123456789~".charAt(below(24)));
         } else if (damage == 2) {
             text.insert(at, "0; b".charAt(below(4)));
         }
@@ -166,24 +165,51 @@ public final class RandomRunsTest {
     private void ask(int kind) {
         int pier = somePier();
         int barge = someBarge();
+        if (kind < 24) {
+            askWhatWouldBe(kind, pier, barge);
+        } else if (kind < 29) {
+            askByNumber(kind);
+        } else {
+            askOfOne(kind, pier, barge);
+        }
+        compareReasons();
+    }
+
+    private void askWhatWouldBe(int kind, int pier, int barge) {
         int berths = near(1, 5);
         switch (kind) {
             case 20: same("wouldMove(" + berths + ")", x.wouldMove(berths), m.wouldMove(berths)); break;
             case 21: same("wouldClose(" + pier + ")", x.wouldClose(pier), m.wouldClose(pier)); break;
             case 22: same("tell(" + pier + ")", x.tell(pier), m.tell(pier)); break;
-            case 23: same("tellBarge(" + barge + ")", x.tellBarge(barge), m.tellBarge(barge)); break;
-            case 24: int index = near(0, 60); same("character(" + index + ")", x.character(index), m.character(index)); break;
+            default: same("tellBarge(" + barge + ")", x.tellBarge(barge), m.tellBarge(barge));
+        }
+    }
+
+    private void askByNumber(int kind) {
+        int index = near(0, 60);
+        int place = near(0, 80);
+        int what = near(0, 3);
+        int point = near(0, 359);
+        int some = near(0, 14);
+        switch (kind) {
+            case 24: same("character(" + index + ")", x.character(index), m.character(index)); break;
             case 25: same("isBalanced()", x.isBalanced(), 1); break;
-            case 26: int place = near(0, 80); int what = near(0, 3); same("ring(" + place + ", " + what + ")", x.ring(place, what), m.ring(place, what)); break;
-            case 27: int point = near(0, 359); same("homeOf(" + point + ")", x.homeOf(point), m.homeOf(point)); break;
-            case 28: int some = near(0, 14); same("account(" + some + ")", x.account(some), m.account(some)); break;
-            case 29: int number = near(0, 9); same("pierOf(" + pier + ", " + number + ")", x.pierOf(pier, number), m.pierOf(pier, number)); break;
-            case 30: int its = near(0, 4); same("bargeOf(" + barge + ", " + its + ")", x.bargeOf(barge, its), m.bargeOf(barge, its)); break;
+            case 26: same("ring(" + place + ", " + what + ")", x.ring(place, what), m.ring(place, what)); break;
+            case 27: same("homeOf(" + point + ")", x.homeOf(point), m.homeOf(point)); break;
+            default: same("account(" + some + ")", x.account(some), m.account(some));
+        }
+    }
+
+    private void askOfOne(int kind, int pier, int barge) {
+        int ofPier = near(0, 9);
+        int ofBarge = near(0, 4);
+        switch (kind) {
+            case 29: same("pierOf(" + pier + ", " + ofPier + ")", x.pierOf(pier, ofPier), m.pierOf(pier, ofPier)); break;
+            case 30: same("bargeOf(" + barge + ", " + ofBarge + ")", x.bargeOf(barge, ofBarge), m.bargeOf(barge, ofBarge)); break;
             case 31: same("home(" + barge + ")", x.home(barge), m.home(barge)); break;
             case 32: same("homeAgain(" + barge + ")", x.homeAgain(barge), m.home(barge)); break;
             default: same("neighbours(" + pier + ")", x.neighbours(pier), m.neighbours(pier));
         }
-        compareReasons();
     }
 
     private void compareReasons() {
