@@ -2,12 +2,21 @@ import java.util.Locale;
 
 /** Compares answers with those that are due, prints each that is another, and ends with exit code 1 then. */
 final class Due {
+    private static final int MOST_PRINTED = 40;
+
     private final String test;
+    private String from;
     private int compared = 0;
     private int wrong = 0;
 
     Due(String test) {
         this.test = test;
+        this.from = test;
+    }
+
+    /** What is compared from here on is told with this name. */
+    void begin(String name) {
+        from = test + ", " + name;
     }
 
     void is(String call, long got, long want) {
@@ -31,11 +40,21 @@ final class Due {
         }
     }
 
+    /** Something that no answer tells is wrong. */
+    void fail(String why) {
+        compared++;
+        tellWrong(why, "it", "none of it");
+    }
+
     private void tellWrong(String call, String got, String want) {
         wrong++;
-        if (wrong <= 40) {
-            System.out.println(String.format(Locale.ROOT, "%s: %s answered %s, due is %s", test, call, got, want));
+        if (wrong <= MOST_PRINTED) {
+            System.out.println(String.format(Locale.ROOT, "%s: %s answered %s, due is %s", from, call, got, want));
         }
+    }
+
+    int compared() {
+        return compared;
     }
 
     int wrong() {
