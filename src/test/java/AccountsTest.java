@@ -188,24 +188,34 @@ public final class AccountsTest {
         }
     }
 
+    private static PierRings changed(int[] kinds, int changes) {
+        PierRings x = new PierRings();
+        x.pier(3);
+        x.pier(1);
+        x.barge(1, 30);
+        x.barge(2, 40);
+        x.barge(3, 50);
+        for (int i = 0; i < changes; i++) {
+            change(x, kinds[i]);
+        }
+        return x;
+    }
+
     private static void undoEachKind(Due due) {
         int[][] rows = {{0, 1, 2, 3, 4, 5, 6, 7}, {8, 7, 6, 5, 4, 3, 1, 2}};
         for (int[] kinds : rows) {
-            PierRings x = new PierRings();
-            x.pier(3);
-            x.pier(1);
-            x.barge(1, 30);
-            x.barge(2, 40);
-            x.barge(3, 50);
-            String[] before = new String[kinds.length];
-            for (int i = 0; i < kinds.length; i++) {
-                before[i] = picture(x);
-                due.is("change " + kinds[i], change(x, kinds[i]) >= 0 ? 1 : 0, 1);
+            for (int changes = 0; changes < kinds.length; changes++) {
+                PierRings x = changed(kinds, changes);
+                String before = picture(x);
+                due.is("change " + kinds[changes], change(x, kinds[changes]) >= 0 ? 1 : 0, 1);
+                due.is("undo of " + kinds[changes], x.undo(), Math.min(7, 5 + changes));
+                due.isText("as before the change " + kinds[changes], picture(x), before);
             }
-            for (int i = kinds.length - 1; i >= 0; i--) {
-                due.is("undo of " + kinds[i], x.undo(), i);
-                due.isText("as before the change " + kinds[i], picture(x), before[i]);
+            PierRings all = changed(kinds, kinds.length);
+            for (int left = 7; left >= 0; left--) {
+                due.is("undo()", all.undo(), left);
             }
+            due.isText("as before all changes", picture(all), picture(changed(kinds, 0)));
         }
     }
 

@@ -479,23 +479,34 @@ public final class EdgesOfAccountsTest {
         }
     }
 
+    /** The latest call was done, so that what is undone is not what a refused one left behind. */
+    private static void someAndAChange(PierRings x) {
+        Starts.some(x);
+        x.load(3, 6);
+    }
+
+    private static void fullAndAChange(PierRings x) {
+        Starts.full(x);
+        x.load(23, 5);
+    }
+
     private static void p31_eachKindOfChangeIsUndoneWhole(Due due) {
-        undone(due, "pier", Starts::some, x -> x.pier(5), 7);
-        undone(due, "close", Starts::some, x -> x.close(0), 7);
-        undone(due, "open", Starts::some, x -> x.open(2), 7);
-        undone(due, "weigh", Starts::some, x -> x.weigh(1, 5), 7);
-        undone(due, "weigh, closed", Starts::some, x -> x.weigh(2, 5), 7);
-        undone(due, "berth", Starts::some, x -> x.berth(200), 7);
-        undone(due, "barge", Starts::some, x -> x.barge(9999, 1), 7);
-        undone(due, "leave", Starts::some, x -> x.leave(0), 7);
-        undone(due, "load", Starts::some, x -> x.load(0, 1), 7);
-        undone(due, "run", Starts::some, PierRings::run, 7);
+        undone(due, "pier", EdgesOfAccountsTest::someAndAChange, x -> x.pier(5), 7);
+        undone(due, "close", EdgesOfAccountsTest::someAndAChange, x -> x.close(0), 7);
+        undone(due, "open", EdgesOfAccountsTest::someAndAChange, x -> x.open(2), 7);
+        undone(due, "weigh", EdgesOfAccountsTest::someAndAChange, x -> x.weigh(1, 5), 7);
+        undone(due, "weigh, closed", EdgesOfAccountsTest::someAndAChange, x -> x.weigh(2, 5), 7);
+        undone(due, "berth", EdgesOfAccountsTest::someAndAChange, x -> x.berth(200), 7);
+        undone(due, "barge", EdgesOfAccountsTest::someAndAChange, x -> x.barge(9999, 1), 7);
+        undone(due, "leave", EdgesOfAccountsTest::someAndAChange, x -> x.leave(0), 7);
+        undone(due, "load", EdgesOfAccountsTest::someAndAChange, x -> x.load(0, 1), 7);
+        undone(due, "run", EdgesOfAccountsTest::someAndAChange, PierRings::run, 7);
         undone(due, "the first pier", Starts::none, x -> x.pier(5), 0);
         undone(due, "close of the 8th pier", Starts::eightPiers, x -> x.close(7), 7);
-        undone(due, "leave of the first of 24", Starts::full, x -> x.leave(0), 7);
-        undone(due, "leave of the last of 24", Starts::full, x -> x.leave(23), 7);
-        undone(due, "close of the last of 8", Starts::full, x -> x.close(7), 7);
-        undone(due, "run in full", Starts::full, PierRings::run, 7);
+        undone(due, "leave of the first of 24", EdgesOfAccountsTest::fullAndAChange, x -> x.leave(0), 7);
+        undone(due, "leave of the last of 24", EdgesOfAccountsTest::fullAndAChange, x -> x.leave(23), 7);
+        undone(due, "close of the last of 8", EdgesOfAccountsTest::fullAndAChange, x -> x.close(7), 7);
+        undone(due, "run in full", EdgesOfAccountsTest::fullAndAChange, PierRings::run, 7);
     }
 
     private static void p31_theTextTheLineAndTheReasonStay(Due due) {

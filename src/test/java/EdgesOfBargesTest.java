@@ -397,6 +397,21 @@ public final class EdgesOfBargesTest {
         due.is("it passes 330, 0 and 56", x.bargeOf(2, 4), 3);
     }
 
+    private static void p12_behindTheLastPoint_itBeginsWithTheLowestOne(Due due) {
+        PierRings x = Starts.withPiers(1, 1, 1);
+        Starts.bargeAt(x, 331, 60);
+        Starts.bargeAt(x, 359, 60);
+        due.is("331, at 0", x.bargeOf(0, 3), 0);
+        due.is("it passes none", x.bargeOf(0, 4), 0);
+        due.is("359, at 137", x.bargeOf(1, 3), 1);
+        due.is("it passes 0 and 56", x.bargeOf(1, 4), 2);
+        x.close(0);
+        due.is("331, at 137", x.bargeOf(0, 3), 1);
+        due.is("it passes none", x.bargeOf(0, 4), 0);
+        due.is("359, at 274", x.bargeOf(1, 3), 2);
+        due.is("it passes 137 and 193", x.bargeOf(1, 4), 2);
+    }
+
     private static void p12_theLastPierOnItsWayHasRoom(Due due) {
         PierRings x = Starts.withPiers(5, 1);
         x.berth(10);

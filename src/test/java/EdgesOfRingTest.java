@@ -27,6 +27,18 @@ public final class EdgesOfRingTest {
         return x;
     }
 
+    /** Eight piers with one berth each, all closed but one. */
+    private static PierRings aloneOpen(int pier) {
+        PierRings x = new PierRings();
+        Starts.eightPiersOf(x, 1);
+        for (int other = 0; other < 8; other++) {
+            if (other != pier) {
+                x.close(other);
+            }
+        }
+        return x;
+    }
+
     // ---- promise 16: ring
 
     private static void p16_minus1IsOneBelowTheFirstPlace_none(Due due) {
@@ -107,13 +119,7 @@ public final class EdgesOfRingTest {
 
     private static void p16_aPierWith1BerthHasItsPoints0And1Alone(Due due) {
         for (int pier = 0; pier < 8; pier++) {
-            PierRings x = new PierRings();
-            Starts.eightPiersOf(x, 1);
-            for (int other = 0; other < 8; other++) {
-                if (other != pier) {
-                    x.close(other);
-                }
-            }
+            PierRings x = aloneOpen(pier);
             boolean inOrder = POINTS[pier][0] < POINTS[pier][1];
             due.is("the point 0 of " + pier, x.ring(inOrder ? 0 : 1, 0), POINTS[pier][0]);
             due.is("the point 1 of " + pier, x.ring(inOrder ? 1 : 0, 0), POINTS[pier][1]);
@@ -168,13 +174,7 @@ public final class EdgesOfRingTest {
 
     private static void p17_twoPoints_2(Due due) {
         for (int pier = 0; pier < 8; pier++) {
-            PierRings x = new PierRings();
-            Starts.eightPiersOf(x, 1);
-            for (int other = 0; other < 8; other++) {
-                if (other != pier) {
-                    x.close(other);
-                }
-            }
+            PierRings x = aloneOpen(pier);
             due.is("deep() of " + pier, x.deep(), 2);
         }
     }

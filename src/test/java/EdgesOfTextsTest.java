@@ -246,6 +246,17 @@ public final class EdgesOfTextsTest {
         fault(due, "pier 1;barge 1000 10;barge 1001 10;barge 1002 10;barge 10 1 ", 59);
     }
 
+    private static void p22_aShorterTextDoesNotGoOnWithTheOneBefore(Due due) {
+        String longer = "weigh 1 2;barge 1 1;load 1 2";
+        for (int length = 0; length < longer.length(); length++) {
+            PierRings x = new PierRings();
+            due.is("the longer one", Due.run(x, longer), REFUSED);
+            boolean isWhole = length == 9 || length == 19;
+            String text = longer.substring(0, length);
+            due.is("run() of '" + text + "' behind it", Due.run(x, text), isWhole ? REFUSED : -1000 - length);
+        }
+    }
+
     private static void p22_oneOrder_1(Due due) {
         due.is("run()", Due.run(new PierRings(), "pier 1"), 1);
     }

@@ -1,13 +1,20 @@
-/** Long runs of calls, always the same ones, against the slow model; every promise is looked at after each change. */
+/**
+ * Runs of 512 calls, always the same ones, against the slow model: first changes and questions as they come, then as many
+ * questions of one kind after the other as the object still answers.
+ */
 public final class RandomRunsTest {
-    private static final int RUNS = 30;
-    private static final int CALLS = 512;
+    private static final int RUNS = 480;
+    private static final int MOST_CALLS = 512;
+    /** A text that is appended sign by sign and run, with its reasons, takes the most calls of what comes at once. */
+    private static final int MOST_AT_ONCE = 100;
+    private static final int KINDS_OF_QUESTIONS = 6;
 
     private final Due due;
     private final PierRings x = new PierRings();
     private final Model m = new Model();
     private final int run;
     private long seed;
+    private int calls = 0;
 
     private RandomRunsTest(Due due, int run) {
         this.due = due;
@@ -19,14 +26,20 @@ public final class RandomRunsTest {
         Due due = new Due("RandomRunsTest");
         for (int run = 0; run < RUNS && due.wrong() == 0; run++) {
             RandomRunsTest test = new RandomRunsTest(due, run);
-            for (int call = 0; call < CALLS && due.wrong() == 0; call++) {
+            int changing = 50 + 50 * (run % 8);
+            while (test.calls < changing && test.calls + MOST_AT_ONCE <= MOST_CALLS) {
                 test.callSomething();
-                if (call % 40 == 0 || call == CALLS - 1) {
-                    test.compareAll();
-                }
             }
+            for (int kind = 0; kind < KINDS_OF_QUESTIONS; kind++) {
+                test.compareAllOfAKind((run / 8 + kind) % KINDS_OF_QUESTIONS);
+            }
+            due.is("more calls than an object answers", test.calls > MOST_CALLS ? 1 : 0, 0);
         }
         due.end();
+    }
+
+    private boolean mayAsk() {
+        return calls < MOST_CALLS;
     }
 
     private int below(int bound) {
@@ -66,6 +79,7 @@ public final class RandomRunsTest {
     }
 
     private void same(String call, long got, long want) {
+        calls++;
         due.is("run " + run + ", " + call, got, want);
     }
 
@@ -217,49 +231,71 @@ public final class RandomRunsTest {
         same("reason(true)", x.reason(true), m.reason(true));
     }
 
-    private void compareAll() {
-        for (int what = -1; what <= 15; what++) {
+    private void compareAllOfAKind(int kind) {
+        switch (kind) {
+            case 0 -> compareNumbers();
+            case 1 -> comparePiers();
+            case 2 -> compareBarges();
+            case 3 -> compareRing();
+            case 4 -> compareHomesOfPoints();
+            default -> compareLine();
+        }
+    }
+
+    private void compareNumbers() {
+        for (int what = -1; what <= 15 && mayAsk(); what++) {
             same("account(" + what + ")", x.account(what), m.account(what));
         }
-        for (int pier = -1; pier <= 8; pier++) {
-            for (int what = -1; what <= 10; what++) {
-                same("pierOf(" + pier + ", " + what + ")", x.pierOf(pier, what), m.pierOf(pier, what));
-            }
+        if (calls + 5 <= MOST_CALLS) {
+            same("isBalanced()", x.isBalanced(), 1);
+            same("deep()", x.deep(), m.deep());
+            due.isReal("meanStretch()", x.meanStretch(), m.meanStretch());
+            due.isReal("takenShare()", x.takenShare(), m.takenShare());
+            calls += 2;
+        }
+    }
+
+    private void comparePiers() {
+        for (int pier = -1; pier <= 8 && calls + 4 <= MOST_CALLS; pier++) {
             same("neighbours(" + pier + ")", x.neighbours(pier), m.neighbours(pier));
             same("wouldClose(" + pier + ")", x.wouldClose(pier), m.wouldClose(pier));
             same("wouldMove(" + pier + ")", x.wouldMove(pier), m.wouldMove(pier));
             same("hottest(" + pier + ")", x.hottest(pier), m.hottest(pier));
         }
-        compareBarges();
-        compareRing();
-        same("isBalanced()", x.isBalanced(), 1);
-        due.isReal("meanStretch()", x.meanStretch(), m.meanStretch());
-        due.isReal("takenShare()", x.takenShare(), m.takenShare());
-        compareReasons();
+        for (int pier = -1; pier <= 8; pier++) {
+            for (int what = -1; what <= 10 && mayAsk(); what++) {
+                same("pierOf(" + pier + ", " + what + ")", x.pierOf(pier, what), m.pierOf(pier, what));
+            }
+        }
     }
 
     private void compareBarges() {
-        for (int barge = -1; barge <= m.account(3); barge++) {
+        for (int barge = -1; barge <= m.account(3) && calls + 9 <= MOST_CALLS; barge++) {
             for (int what = -1; what <= 5; what++) {
                 same("bargeOf(" + barge + ", " + what + ")", x.bargeOf(barge, what), m.bargeOf(barge, what));
             }
             same("home(" + barge + ")", x.home(barge), m.home(barge));
             same("homeAgain(" + barge + ")", x.homeAgain(barge), m.home(barge));
         }
-        for (int index = -1; index <= 70; index++) {
-            same("character(" + index + ")", x.character(index), m.character(index));
-        }
     }
 
     private void compareRing() {
         for (int place = -1; place <= m.account(2); place++) {
-            for (int what = -1; what <= 4; what++) {
+            for (int what = -1; what <= 4 && mayAsk(); what++) {
                 same("ring(" + place + ", " + what + ")", x.ring(place, what), m.ring(place, what));
             }
         }
-        for (int point = -1; point <= 360; point++) {
+    }
+
+    private void compareHomesOfPoints() {
+        for (int point = -1; point <= 360 && mayAsk(); point++) {
             same("homeOf(" + point + ")", x.homeOf(point), m.homeOf(point));
         }
-        same("deep()", x.deep(), m.deep());
+    }
+
+    private void compareLine() {
+        for (int index = -1; index <= 70 && mayAsk(); index++) {
+            same("character(" + index + ")", x.character(index), m.character(index));
+        }
     }
 }
