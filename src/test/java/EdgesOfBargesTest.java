@@ -412,6 +412,21 @@ public final class EdgesOfBargesTest {
         due.is("it passes 137 and 193", x.bargeOf(1, 4), 2);
     }
 
+    private static void p12_behindTheLastOf80Points_itBeginsWithTheLowestOne(Due due) {
+        PierRings x = new PierRings();
+        Starts.eightPiersOf(x, 5);
+        Starts.bargeAt(x, 357, 5);
+        Starts.bargeAt(x, 358, 5);
+        Starts.bargeAt(x, 359, 5);
+        int[] piers = {5, 0, 0};
+        for (int barge = 0; barge < 3; barge++) {
+            due.is("the pier", x.bargeOf(barge, 3), piers[barge]);
+            due.is("it passes none", x.bargeOf(barge, 4), 0);
+            due.is("home", x.home(barge), piers[barge]);
+            due.is("homeAgain", x.homeAgain(barge), piers[barge]);
+        }
+    }
+
     private static void p12_theLastPierOnItsWayHasRoom(Due due) {
         PierRings x = Starts.withPiers(5, 1);
         x.berth(10);
