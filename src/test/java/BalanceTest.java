@@ -8,7 +8,7 @@ public final class BalanceTest {
     private static final int NOTHING = PierRings.NOTHING;
 
     public static void main(String[] args) {
-        Cases.run(BalanceTest.class, 28, 28);
+        Cases.run(BalanceTest.class, 28, 28, args);
     }
 
     /** The pier 0 has 0 and 56, 1 has 137 and 193, 2 has 274 and 330; all barges are at home at 0 and 1. */

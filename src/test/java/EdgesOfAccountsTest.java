@@ -7,7 +7,7 @@ public final class EdgesOfAccountsTest {
     private static final int NOTHING = PierRings.NOTHING;
 
     public static void main(String[] args) {
-        Cases.run(EdgesOfAccountsTest.class, 26, 33);
+        Cases.run(EdgesOfAccountsTest.class, 26, 33, args);
     }
 
     private static PierRings whole() {
@@ -113,6 +113,13 @@ public final class EdgesOfAccountsTest {
         reasonIs(due, x, 3, 3);
         x.restore();
         reasonIs(due, x, 3, 3);
+    }
+
+    private static void p26_askingLeavesAllAsItWas(Due due) {
+        Twins.asked(due, "reason", x -> {
+            x.reason(false);
+            x.reason(true);
+        });
     }
 
     // ---- promise 27: account
@@ -232,6 +239,14 @@ public final class EdgesOfAccountsTest {
         }
     }
 
+    private static void p27_askingLeavesAllAsItWas(Due due) {
+        Twins.asked(due, "account", x -> {
+            for (int what = 0; what <= 14; what++) {
+                x.account(what);
+            }
+        });
+    }
+
     // ---- promise 28: isBalanced
 
     private static void p28_noPierNoBarge_1(Due due) {
@@ -283,6 +298,12 @@ public final class EdgesOfAccountsTest {
         due.is("isBalanced(), 0 is closed", x.isBalanced(), 1);
     }
 
+    private static void p28_askingLeavesAllAsItWas(Due due) {
+        Twins.asked(due, "isBalanced", x -> {
+            x.isBalanced();
+        });
+    }
+
     // ---- promise 29: meanStretch
 
     private static void p29_noPierIsOpen_0(Due due) {
@@ -307,6 +328,12 @@ public final class EdgesOfAccountsTest {
 
     private static void p29_8AreOpen_45(Due due) {
         due.isReal("meanStretch()", whole().meanStretch(), 45.0);
+    }
+
+    private static void p29_askingLeavesAllAsItWas(Due due) {
+        Twins.asked(due, "meanStretch", x -> {
+            x.meanStretch();
+        });
     }
 
     // ---- promise 30: takenShare
@@ -350,6 +377,12 @@ public final class EdgesOfAccountsTest {
         PierRings x = Starts.withPiers(1, 2);
         x.barge(3, 7);
         due.isReal("7 of 180", x.takenShare(), 7.0f / 180.0f);
+    }
+
+    private static void p30_askingLeavesAllAsItWas(Due due) {
+        Twins.asked(due, "takenShare", x -> {
+            x.takenShare();
+        });
     }
 
     // ---- promise 31: undo

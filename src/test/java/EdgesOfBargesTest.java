@@ -9,7 +9,7 @@ public final class EdgesOfBargesTest {
     private static final int NOTHING = PierRings.NOTHING;
 
     public static void main(String[] args) {
-        Cases.run(EdgesOfBargesTest.class, 9, 15);
+        Cases.run(EdgesOfBargesTest.class, 9, 15, args);
     }
 
     private static void allBarges(PierRings x) {
@@ -501,6 +501,33 @@ public final class EdgesOfBargesTest {
         due.is("0, 56 and 112 of the pier 0", x.bargeOf(1, 4), 3);
     }
 
+    private static void p12_itLiesAtAnotherPierThanItsHome_itPassedAPointOfItsHome(Due due) {
+        PierRings x = new PierRings();
+        Starts.full(x);
+        int elsewhere = 0;
+        for (int barge = 0; barge < 24; barge++) {
+            if (x.bargeOf(barge, 3) >= 0 && x.bargeOf(barge, 3) != x.home(barge)) {
+                due.is("it passed a point, the barge " + barge, x.bargeOf(barge, 4) > 0 ? 1 : 0, 1);
+                elsewhere++;
+            } else {
+                int passed = x.bargeOf(barge, 3) == NOTHING ? x.account(2) : 0;
+                due.is("it passed none, or all, the barge " + barge, x.bargeOf(barge, 4), passed);
+            }
+        }
+        due.is("those that lie elsewhere", x.account(5), elsewhere);
+        due.is("some of them lie elsewhere", elsewhere > 0 ? 1 : 0, 1);
+    }
+
+    private static void p12_askingLeavesAllAsItWas(Due due) {
+        Twins.asked(due, "bargeOf", x -> {
+            for (int barge = 0; barge <= 23; barge++) {
+                for (int what = 0; what <= 4; what++) {
+                    x.bargeOf(barge, what);
+                }
+            }
+        });
+    }
+
     // ---- promises 13 and 14: home, homeAgain
 
     private static void p13_minus1IsOneBelowTheFirstBarge_none(Due due) {
@@ -650,6 +677,22 @@ public final class EdgesOfBargesTest {
         }
     }
 
+    private static void p13_askingLeavesAllAsItWas(Due due) {
+        Twins.asked(due, "home", x -> {
+            for (int barge = 0; barge <= 23; barge++) {
+                x.home(barge);
+            }
+        });
+    }
+
+    private static void p14_askingLeavesAllAsItWas(Due due) {
+        Twins.asked(due, "homeAgain", x -> {
+            for (int barge = 0; barge <= 23; barge++) {
+                x.homeAgain(barge);
+            }
+        });
+    }
+
     // ---- promise 15: homeOf
 
     private static void p15_minus1IsOneBelowTheFirstPoint_none(Due due) {
@@ -708,5 +751,13 @@ public final class EdgesOfBargesTest {
         }
         due.is("357 is the last one", x.homeOf(357), 5);
         due.is("358 goes on to 0", x.homeOf(358), 0);
+    }
+
+    private static void p15_askingLeavesAllAsItWas(Due due) {
+        Twins.asked(due, "homeOf", x -> {
+            for (int point = 0; point < 360; point += 7) {
+                x.homeOf(point);
+            }
+        });
     }
 }

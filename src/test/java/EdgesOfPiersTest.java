@@ -9,7 +9,7 @@ public final class EdgesOfPiersTest {
     private static final int NOTHING = PierRings.NOTHING;
 
     public static void main(String[] args) {
-        Cases.run(EdgesOfPiersTest.class, 1, 8);
+        Cases.run(EdgesOfPiersTest.class, 1, 8, args);
     }
 
     // ---- promise 1: a new object
@@ -335,6 +335,19 @@ public final class EdgesOfPiersTest {
         due.is("pierOf(7, 1)", x.pierOf(7, 1), 1);
         due.is("account(1)", x.account(1), 1);
         due.is("its points", x.account(2), 6);
+    }
+
+    private static void p04_eachOf8PiersComesBackWithItsBerthsAndPoints(Due due) {
+        for (int pier = 0; pier < 8; pier++) {
+            PierRings x = new PierRings();
+            Starts.eightPiers(x);
+            x.close(pier);
+            due.is("open(" + pier + ")", x.open(pier), 0);
+            for (int other = 0; other < 8; other++) {
+                due.is("its berths, the pier " + other, x.pierOf(other, 0), 1 + other % 5);
+                due.is("its points, the pier " + other, x.pierOf(other, 2), 2 * (1 + other % 5));
+            }
+        }
     }
 
     private static void p04_oneAboveTheLastPier_none(Due due) {
@@ -739,6 +752,16 @@ public final class EdgesOfPiersTest {
         due.is("60 lie there too", x.pierOf(1, 7), 60);
     }
 
+    private static void p07_askingLeavesAllAsItWas(Due due) {
+        Twins.asked(due, "pierOf", x -> {
+            for (int pier = 0; pier <= 7; pier++) {
+                for (int what = 0; what <= 9; what++) {
+                    x.pierOf(pier, what);
+                }
+            }
+        });
+    }
+
     // ---- promise 8: neighbours
 
     private static void p08_minus1IsOneBelowTheFirstPier_none(Due due) {
@@ -818,5 +841,13 @@ public final class EdgesOfPiersTest {
         due.is("112, 137 and 168, 193, and 336, 0 again", x.neighbours(1), 1);
         due.is("0, 32, 56, 88, 112, then 137", x.neighbours(0), 2);
         due.is("the pier 0 has most", x.pierOf(0, 3), 360 - 25 - 25);
+    }
+
+    private static void p08_askingLeavesAllAsItWas(Due due) {
+        Twins.asked(due, "neighbours", x -> {
+            for (int pier = 0; pier <= 7; pier++) {
+                x.neighbours(pier);
+            }
+        });
     }
 }

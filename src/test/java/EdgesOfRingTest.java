@@ -18,7 +18,7 @@ public final class EdgesOfRingTest {
     };
 
     public static void main(String[] args) {
-        Cases.run(EdgesOfRingTest.class, 16, 20);
+        Cases.run(EdgesOfRingTest.class, 16, 20, args);
     }
 
     private static PierRings wholeRing() {
@@ -157,6 +157,16 @@ public final class EdgesOfRingTest {
         due.is("193 has three above it", x.ring(3, 3), 3);
     }
 
+    private static void p16_askingLeavesAllAsItWas(Due due) {
+        Twins.asked(due, "ring", x -> {
+            for (int place = 0; place <= 20; place++) {
+                for (int what = 0; what <= 3; what++) {
+                    x.ring(place, what);
+                }
+            }
+        });
+    }
+
     // ---- promise 17: deep
 
     private static void p17_noPier_0(Due due) {
@@ -192,6 +202,12 @@ public final class EdgesOfRingTest {
             most = Math.max(most, x.ring(place, 3));
         }
         due.is("the most that are above one, and this one", most + 1, 13);
+    }
+
+    private static void p17_askingLeavesAllAsItWas(Due due) {
+        Twins.asked(due, "deep", x -> {
+            x.deep();
+        });
     }
 
     // ---- promise 18: wouldMove
@@ -434,5 +450,13 @@ public final class EdgesOfRingTest {
         due.is("60 of 60", x.hottest(0), 0);
         x.load(0, 59);
         due.is("59 of 60, so 0 of 0 is ahead", x.hottest(0), 2);
+    }
+
+    private static void p20_askingLeavesAllAsItWas(Due due) {
+        Twins.asked(due, "hottest", x -> {
+            for (int place = 0; place <= 7; place++) {
+                x.hottest(place);
+            }
+        });
     }
 }

@@ -12,7 +12,7 @@ public final class EdgesOfTextsTest {
     private static final String FULL_TEXT = "pier 1;barge 1000 10;barge 1001 10;barge 1002 10;barge 10 10";
 
     public static void main(String[] args) {
-        Cases.run(EdgesOfTextsTest.class, 21, 25);
+        Cases.run(EdgesOfTextsTest.class, 21, 25, args);
     }
 
     private static void fullText(PierRings x) {
@@ -649,5 +649,13 @@ public final class EdgesOfTextsTest {
         due.isText("restored", Due.line(x), "0*2:");
         x.run();
         due.isText("run", Due.line(x), "0*2:");
+    }
+
+    private static void p25_askingLeavesAllAsItWas(Due due) {
+        Twins.asked(due, "character", x -> {
+            for (int index = 0; index <= 20; index++) {
+                x.character(index);
+            }
+        });
     }
 }

@@ -16,6 +16,11 @@ final class Twins {
         int on(PierRings x);
     }
 
+    /** Some hundred questions at most, so that the object still answers what is looked at behind them. */
+    interface Question {
+        void ask(PierRings x);
+    }
+
     /** What is looked at; the last ones show what only later calls tell: the changes, the text, the snapshot. */
     enum Look {
         REASONS, LINE, NUMBERS, PIERS, BARGES, RING, WOULD_BE, UNDONE_NUMBERS, UNDONE_PIERS, UNDONE_NAMES, UNDONE_TONS,
@@ -28,6 +33,17 @@ final class Twins {
     /** The call answers so, and leaves everything as it was. */
     static void unchanged(Due due, String name, Start start, Call call, int answer) {
         compare(due, name, start, call, answer, start, EnumSet.noneOf(Look.class));
+    }
+
+    /** Asking leaves everything as it was, with nothing there, with some, and with all that can be there. */
+    static void asked(Due due, String name, Question question) {
+        Call call = x -> {
+            question.ask(x);
+            return 0;
+        };
+        unchanged(due, name + ", nothing is there", Starts::none, call, 0);
+        unchanged(due, name + ", some is there", Starts::some, call, 0);
+        unchanged(due, name + ", all is there", Starts::full, call, 0);
     }
 
     /** The call answers so, and leaves everything but this as it was. */
